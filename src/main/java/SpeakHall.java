@@ -689,7 +689,7 @@ public final class SpeakHall {
         }
 
         boolean isOfKind(int member, int kind) {
-            int its = kindOf(member);
+            int its = at(kinds, member);
             for (int step = 0; step < KINDS && its != kind; step++) {
                 its = at(KIND_ABOVE, its);
             }
@@ -719,7 +719,8 @@ public final class SpeakHall {
         private final int[] speeches = new int[MOST_MEMBERS];
         private final int[] delegationTimes = new int[DELEGATIONS];
         private int size = 0;
-        private int latestTaker = NOBODY;
+        // Of who TOOK THE FLOOR latest; before anybody did it is like no DELEGATION, so that KEY 7 finds all alike.
+        private int latestDelegation = NOBODY;
 
         Standing(Roster roster) {
             this.roster = roster;
@@ -732,7 +733,7 @@ public final class SpeakHall {
             refill(speeches, other.speeches);
             refill(delegationTimes, other.delegationTimes);
             size = other.size;
-            latestTaker = other.latestTaker;
+            latestDelegation = other.latestDelegation;
         }
 
         private static void refill(int[] row, int[] from) {
@@ -765,8 +766,8 @@ public final class SpeakHall {
             return at(delegationTimes, delegation);
         }
 
-        int latestTaker() {
-            return latestTaker;
+        int latestDelegation() {
+            return latestDelegation;
         }
 
         int find(int member, int sort) {
@@ -802,7 +803,7 @@ public final class SpeakHall {
             if (sortAt(asking) == SPEECH) {
                 set(speeches, member, speechesOf(member) + 1);
             }
-            latestTaker = member;
+            latestDelegation = roster.delegationOf(member);
             drop(asking);
         }
 
@@ -880,15 +881,11 @@ public final class SpeakHall {
                 case 4: return state.speechesOf(member);
                 case 5: return state.timeOf(member);
                 case 6: return state.delegationTime(roster.delegationOf(member));
-                case 7: return isOfLatestDelegation(state.latestTaker(), member) ? 1 : 0;
+                case 7: return state.latestDelegation() == roster.delegationOf(member) ? 1 : 0;
                 case 8: return roster.isOfKind(member, GUEST) ? 1 : 0;
                 case 9: return roster.isOfKind(member, CHAIR) ? 0 : 1;
                 default: return 0;
             }
-        }
-
-        private boolean isOfLatestDelegation(int latestTaker, int member) {
-            return latestTaker != NOBODY && roster.delegationOf(latestTaker) == roster.delegationOf(member);
         }
     }
 
@@ -927,18 +924,14 @@ public final class SpeakHall {
             size = 0;
             for (int asking = 0; asking < standing.size(); asking++) {
                 if (roster.isHere(standing.memberAt(asking))) {
-                    insert(asking);
+                    int place = size;
+                    for (; place > 0 && rule.isAhead(standing, asking, askingAt(place - 1)); place--) {
+                        set(order, place, askingAt(place - 1));
+                    }
+                    set(order, place, asking);
+                    size++;
                 }
             }
-        }
-
-        private void insert(int asking) {
-            int place = size;
-            for (; place > 0 && rule.isAhead(standing, asking, askingAt(place - 1)); place--) {
-                set(order, place, askingAt(place - 1));
-            }
-            set(order, place, asking);
-            size++;
         }
     }
 

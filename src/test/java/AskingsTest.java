@@ -113,7 +113,8 @@ public final class AskingsTest {
         check.due("noKeys()", x.noKeys(), 6);
         check.due("told(2) without", x.told(2), 0);
         check.due("noKeys() again", x.noKeys(), 0);
-        check.due("key(4) again", x.key(4), 1);
+        check.due("the one that was first", x.key(9), 1);
+        check.due("the one that was second", x.key(8), 2);
     }
 
     private static void askedOrderWithoutKeys() {

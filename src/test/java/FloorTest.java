@@ -9,6 +9,7 @@ public final class FloorTest {
         cuttingIsFull();
         ticking();
         tickingThroughThoseBehind();
+        fourBehindKeepTheirs();
         yielding();
         ofTheFloor();
         limits();
@@ -161,6 +162,28 @@ public final class FloorTest {
         }
         check.due("time of who was behind", x.of(0, 3), 10);
         check.due("time of who cut in", x.of(1, 3), 2);
+    }
+
+    private static void fourBehindKeepTheirs() {
+        SpeakHall x = hall(0, 0, 0, 0, 0);
+        x.limit(2, 20);
+        x.ask(0, 1);
+        x.begin();
+        x.tick(1);
+        for (int m = 1; m <= 4; m++) {
+            x.ask(m, 2);
+            x.cut();
+            x.tick(m + 1);
+        }
+        for (int m = 4; m >= 0; m--) {
+            check.due("who", x.floor(0), m);
+            check.due("for which sort", x.floor(1), m == 0 ? 1 : 2);
+            check.due("left", x.floor(2), (m == 0 ? 4 : 20) - m - 1);
+            check.due("behind", x.floor(3), m);
+            x.yield();
+            check.due("ticks", x.minutes(4 - m, 3), m + 1);
+            check.due("sort", x.minutes(4 - m, 1), m == 0 ? 1 : 2);
+        }
     }
 
     private static void yielding() {

@@ -108,6 +108,11 @@ public final class SheetsTest {
         check.due("copy(0, 4, 3, 6, 0)", x.copy(0, 4, 3, 6, 0), 0);
         check.due("copy(0, 0, 3, 2, 4)", x.copy(0, 0, 3, 2, 4), 4);
         readsAs("up to its end", x, 3, 9, 8, 1, 2, 3, 4);
+        check.due("copy(0, 1, 3, 1, 1)", x.copy(0, 1, 3, 1, 1), 1);
+        check.due("copy(0, 0, 3, 3, 1)", x.copy(0, 0, 3, 3, 1), 1);
+        check.due("copy(0, 3, 3, 2, 1)", x.copy(0, 3, 3, 2, 1), 1);
+        x.put(3, 5, 7);
+        readsAs("and no more than n", x, 3, 9, 2, 4, 1, 3, 7);
     }
 
     private static void copyingWithinASheet() {

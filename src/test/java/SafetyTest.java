@@ -1,0 +1,106 @@
+import java.lang.management.ManagementFactory;
+import java.lang.reflect.Method;
+import java.lang.reflect.Modifier;
+import java.util.ArrayList;
+import java.util.Arrays;
+import java.util.Comparator;
+import java.util.List;
+import java.util.Random;
+
+/** LANGUAGE.md, rules 7, 12 and 13: no call throws, none makes anything new, and the same calls give the same answers. */
+public final class SafetyTest {
+    private static final int[] EDGES = {Integer.MIN_VALUE, Integer.MIN_VALUE + 1, -100001, -32, -2, -1, 0, 1, 2, 3, 4, 5, 6, 7, 8, 9, 10,
+        11, 12, 13, 16, 19, 20, 32, 39, 40, 41, 50, 51, 99, 100, 101, 200, 201, 1000, 1001, 65536, Integer.MAX_VALUE - 1, Integer.MAX_VALUE};
+
+    public static void main(String[] args) throws Exception {
+        Check check = new Check();
+        List<Method> calls = new ArrayList<>();
+        for (Method m : SpeakHall.class.getDeclaredMethods()) {
+            if (Modifier.isPublic(m.getModifiers())) {
+                calls.add(m);
+            }
+        }
+        calls.sort(Comparator.comparing(Method::getName));
+        for (int seed = 0; seed < 100; seed++) {
+            run(check, calls, seed);
+        }
+        noCallMakesAnything(check);
+        check.end();
+    }
+
+    /** Far more calls than the document promises answers for: even then nothing is thrown. */
+    private static void run(Check check, List<Method> calls, int seed) {
+        Random random = new Random(seed);
+        SpeakHall x = new SpeakHall();
+        SpeakHall twin = new SpeakHall();
+        for (int n = 0; n < 4000; n++) {
+            Method call = calls.get(random.nextInt(calls.size()));
+            Object[] with = new Object[call.getParameterCount()];
+            for (int i = 0; i < with.length; i++) {
+                boolean yesOrNo = call.getParameterTypes()[i] == boolean.class;
+                int low = random.nextInt(4);
+                with[i] = yesOrNo ? (Object) random.nextBoolean() : (Object) (random.nextBoolean() ? low : EDGES[random.nextInt(EDGES.length)]);
+            }
+            try {
+                check.due("twins", (int) call.invoke(x, with), (int) call.invoke(twin, with));
+            } catch (ReflectiveOperationException e) {
+                check.holds(call.getName() + Arrays.toString(with) + " threw " + e.getCause(), false);
+                return;
+            }
+        }
+    }
+
+    private static void noCallMakesAnything(Check check) {
+        com.sun.management.ThreadMXBean threads = (com.sun.management.ThreadMXBean) ManagementFactory.getThreadMXBean();
+        long self = Thread.currentThread().getId();
+        SpeakHall warm = new SpeakHall();
+        everyCall(warm);
+        SpeakHall x = new SpeakHall();
+        threads.getThreadAllocatedBytes(self);
+        long before = threads.getThreadAllocatedBytes(self);
+        for (int i = 0; i < 100; i++) {
+            everyCall(x);
+        }
+        long made = threads.getThreadAllocatedBytes(self) - before;
+        check.holds("3400 calls make nothing new, but " + made + " bytes", made < 3400);
+    }
+
+    private static void everyCall(SpeakHall x) {
+        x.member(0, 0);
+        x.as(0, 0);
+        x.present(0, true);
+        x.of(0, 3);
+        x.time(0);
+        x.ask(0, 0);
+        x.ask(0, 2);
+        x.ask(1, 0);
+        x.withdraw(1, 0);
+        x.key(5);
+        x.listed(0, true);
+        x.place(0, 2);
+        x.wait(0);
+        x.fits(100, true);
+        x.begin();
+        x.cut();
+        x.tick(1);
+        x.yield();
+        x.floor(0);
+        x.limit(0, 9);
+        x.vote();
+        x.say(0, 1);
+        x.votes(1);
+        x.close(2);
+        x.hands(2, 5, 5, 1);
+        x.apart();
+        x.uneven(true);
+        x.minutes(0, 2);
+        x.right(0, 1);
+        x.sum(0, 1);
+        x.sheet(0, 8, 3);
+        x.put(0, 0, 5);
+        x.copy(0, 0, 0, 1, 2);
+        x.noKeys();
+        x.read(0);
+        x.told(4);
+    }
+}
