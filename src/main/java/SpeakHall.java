@@ -392,10 +392,8 @@ public final class SpeakHall {
     public int uneven(boolean below) {
         int above = gapsOfPairs();
         int under = peopledDelegations() * allTime();
-        if (under == 0) {
-            return below ? 1 : 0;
-        }
         int divisor = greatestDivisor(above, under);
+        // Only 0 by 0 has no divisor: there is no TIME.
         if (divisor == 0) {
             return below ? 1 : 0;
         }

@@ -1,26 +1,14 @@
 import java.lang.management.ManagementFactory;
 import java.lang.reflect.Method;
-import java.lang.reflect.Modifier;
-import java.util.ArrayList;
 import java.util.Arrays;
-import java.util.Comparator;
 import java.util.List;
 import java.util.Random;
 
 /** LANGUAGE.md, rules 7, 12 and 13: no call throws, none makes anything new, and the same calls give the same answers. */
 public final class SafetyTest {
-    private static final int[] EDGES = {Integer.MIN_VALUE, Integer.MIN_VALUE + 1, -100001, -32, -2, -1, 0, 1, 2, 3, 4, 5, 6, 7, 8, 9, 10,
-        11, 12, 13, 16, 19, 20, 32, 39, 40, 41, 50, 51, 99, 100, 101, 200, 201, 1000, 1001, 65536, Integer.MAX_VALUE - 1, Integer.MAX_VALUE};
-
     public static void main(String[] args) throws Exception {
         Check check = new Check();
-        List<Method> calls = new ArrayList<>();
-        for (Method m : SpeakHall.class.getDeclaredMethods()) {
-            if (Modifier.isPublic(m.getModifiers())) {
-                calls.add(m);
-            }
-        }
-        calls.sort(Comparator.comparing(Method::getName));
+        List<Method> calls = RandomCalls.face();
         for (int seed = 0; seed < 100; seed++) {
             run(check, calls, seed);
         }
@@ -39,7 +27,7 @@ public final class SafetyTest {
             for (int i = 0; i < with.length; i++) {
                 boolean yesOrNo = call.getParameterTypes()[i] == boolean.class;
                 int low = random.nextInt(4);
-                with[i] = yesOrNo ? (Object) random.nextBoolean() : (Object) (random.nextBoolean() ? low : EDGES[random.nextInt(EDGES.length)]);
+                with[i] = yesOrNo ? (Object) random.nextBoolean() : (Object) (random.nextBoolean() ? low : RandomCalls.EDGES[random.nextInt(RandomCalls.EDGES.length)]);
             }
             try {
                 check.due("twins", (int) call.invoke(x, with), (int) call.invoke(twin, with));
