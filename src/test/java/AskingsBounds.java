@@ -37,6 +37,8 @@ final class AskingsBounds {
         b.sentence("Promise 7", "FULL: there are 20.",
                 Halls.members(7) + Halls.askings(19) + "ask(6, 1) = 20; ask(6, 2) = FULL; told(1) = 20; withdraw(0, 0) = 19; ask(6, 2) = 20; ask(0, 0) = FULL",
                 Halls.members(10) + Halls.askings(20) + "ask(9, 0) = FULL; ask(6, 2) = FULL; ask(6, 1) = SIZE; ask(0, 0) = SIZE; ask(6, 3) = BEYOND; ask(10, 0) = BEYOND",
+                Halls.RICH + "ask(0, 0) = 7; ask(0, 2) = 8; ask(1, 0); ask(1, 1); ask(1, 2); ask(2, 0); ask(2, 1); ask(3, 1); ask(3, 2); ask(4, 0); ask(4, 1); ask(4, 2) = 18; ask(5, 1) = 19; ask(5, 2) = 20;"
+                        + "ask(6, 0) = FULL; withdraw(5, 0) = 19; ask(6, 0) = 20",
                 Halls.members(7) + Halls.askings(20) + "present(0, false); ask(6, 2) = FULL; present(0, true); begin() = 0; ask(6, 2) = 20; ask(0, 0) = FULL");
     }
 
