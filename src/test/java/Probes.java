@@ -61,8 +61,8 @@ final class Probes {
         acts.add(orderBy("noKeys()"));
         acts.add(new ArrayList<>(List.of("member(0, 0)", "vote()", "tick(100)", "tick(100)", "begin()", "tick(1)", "cut()", "floor(0)")));
         for (int s = 0; s < 4; s++) {
-            for (int bits : new int[] {8, 16, 32}) {
-                acts.add(numbersOf(s, bits));
+            for (int i = 0; i <= 12; i++) {
+                acts.add(numberOf(s, i));
             }
         }
         return acts;
@@ -77,15 +77,23 @@ final class Probes {
         return calls;
     }
 
-    /** Each number of a sheet goes to another sheet alone, is read there, and is told by the KEY that is there then. */
-    private static List<String> numbersOf(int s, int bits) {
-        int other = (s + 1) % 4;
-        List<String> calls = new ArrayList<>(List.of("read(" + s + ")", "sheet(" + other + ", " + bits + ", 1)"));
-        for (int i = 0; i <= 12; i++) {
+    /**
+     * A number of a sheet goes to another sheet of as many bits alone, is read there, and is told by the KEY that is there
+     * then. A run for each number, and no KEY too many in it: what is refused here might itself change a sheet that is broken.
+     */
+    private static List<String> numberOf(int s, int i) {
+        List<String> calls = new ArrayList<>();
+        for (int step = 1; step <= 3; step++) {
+            int other = (s + step) % 4;
+            calls.add("sheet(" + other + ", " + (4 << step) + ", 1)");
             calls.add("copy(" + s + ", " + i + ", " + other + ", 0, 1)");
-            calls.add("noKeys()");
-            calls.add("read(" + other + ")");
-            add(calls, "key(#)", 1, 2, 3, 4, 5, 6, 7, 8, 9);
+        }
+        for (int step = 1; step <= 3; step++) {
+            int other = (s + step) % 4;
+            for (int key = 1; key <= 9; key += 3) {
+                calls.add("read(" + other + ")");
+                add(calls, "key(#)", key, key + 1, key + 2);
+            }
         }
         return calls;
     }
