@@ -5,6 +5,7 @@ import java.lang.reflect.Modifier;
 import java.nio.file.Files;
 import java.nio.file.Path;
 import java.util.Arrays;
+import java.util.List;
 import java.util.Set;
 import java.util.TreeSet;
 import java.util.regex.Matcher;
@@ -23,6 +24,7 @@ public final class LanguageTest {
 
     public static void main(String[] args) throws Exception {
         theFace();
+        theFaceAsWritten();
         theClassesInside();
         theText();
         check.end();
@@ -59,6 +61,35 @@ public final class LanguageTest {
         for (Method m : SpeakHall.class.getDeclaredMethods()) {
             check.holds(m.getName() + " has a name of its own", !Modifier.isPrivate(m.getModifiers()) || !names.contains(m.getName()));
         }
+    }
+
+    /** The document's own lines of the face: each stands in the class by its very words, in its order, under its heading. */
+    private static void theFaceAsWritten() throws Exception {
+        Path document = Path.of("../shared/DOC.md");
+        if (!Files.isReadable(document)) {
+            System.out.println("without " + document + " the face was not compared with its words");
+            return;
+        }
+        String words = Files.readString(document);
+        String whole = Files.readString(Path.of("src/main/java/SpeakHall.java"));
+        String face = words.substring(words.indexOf("public final class SpeakHall {"), words.indexOf("## Terms"));
+        List<String> lines = face.lines().map(String::trim).filter(line -> line.endsWith(";")).map(line -> line.replace(";", " {")).toList();
+        check.due("lines of the document's face", lines.size(), FACE.length + 1);
+        int from = 0;
+        for (String line : lines) {
+            int at = whole.indexOf("    " + line + "\n");
+            check.holds("as the document has it, and in its order: " + line, at > from);
+            from = Math.max(from, at);
+        }
+        Matcher heading = Pattern.compile("Ahead of the calls `(\\w+)`.*`(\\w+)` the interface says: (---- .*)\\.").matcher(words);
+        int headings = 0;
+        while (heading.find()) {
+            headings++;
+            int says = whole.indexOf("    // " + heading.group(3) + "\n");
+            int first = whole.indexOf("public int " + heading.group(1) + "(");
+            check.holds(heading.group(3) + " stands right ahead of " + heading.group(1), says > 0 && says < first && whole.indexOf("public", says) == first);
+        }
+        check.due("headings of the document", headings, 6);
     }
 
     private static void theClassesInside() {

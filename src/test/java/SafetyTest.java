@@ -6,11 +6,16 @@ import java.util.Random;
 
 /** LANGUAGE.md, rules 7, 12 and 13: no call throws, none makes anything new, and the same calls give the same answers. */
 public final class SafetyTest {
+    private static final int[] OUTERMOST = {Integer.MIN_VALUE, -1, 0, 1, 3, 12, 100, 1001, Integer.MAX_VALUE};
+
     public static void main(String[] args) throws Exception {
         Check check = new Check();
         List<Method> calls = RandomCalls.face();
         for (int seed = 0; seed < 100; seed++) {
             run(check, calls, seed);
+        }
+        for (String script : List.of("", Halls.RICH, Halls.members(10) + Halls.askings(20) + Halls.fiveRows(21))) {
+            everyEdge(check, calls, script);
         }
         noCallMakesAnything(check);
         check.end();
@@ -35,6 +40,34 @@ public final class SafetyTest {
                 check.holds(call.getName() + Arrays.toString(with) + " threw " + e.getCause(), false);
                 return;
             }
+        }
+    }
+
+    /** Every call with every mix of the outermost numbers and those next to the bounds. */
+    private static void everyEdge(Check check, List<Method> calls, String script) {
+        for (Method call : calls) {
+            SpeakHall hall = new SpeakHall();
+            for (Script.Row row : Script.rows(script)) {
+                Script.answer(hall, row.call());
+            }
+            int parameters = call.getParameterCount();
+            int[] edges = parameters > 3 ? OUTERMOST : RandomCalls.EDGES;
+            int mixes = (int) Math.round(Math.pow(edges.length, parameters));
+            for (int mix = 0; mix < mixes; mix++) {
+                Object[] with = new Object[parameters];
+                int rest = mix;
+                for (int i = 0; i < parameters; i++, rest /= edges.length) {
+                    int edge = edges[rest % edges.length];
+                    with[i] = call.getParameterTypes()[i] == boolean.class ? (Object) (edge > 0) : (Object) edge;
+                }
+                try {
+                    call.invoke(hall, with);
+                } catch (ReflectiveOperationException e) {
+                    check.holds(call.getName() + Arrays.toString(with) + " threw " + e.getCause(), false);
+                    return;
+                }
+            }
+            check.holds(call.getName() + " answered " + mixes + " mixes", mixes > 0);
         }
     }
 
